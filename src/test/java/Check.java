@@ -1,0 +1,66 @@
+import java.util.function.LongSupplier;
+
+/** What the tests share: each call's answer is compared, and a wrong one is printed. */
+final class Check {
+  private static int wrong = 0;
+
+  private Check() {
+  }
+
+  static void is(String call, long got, long due) {
+    if (got != due) {
+      fail(call + " answered " + got + ", due is " + due);
+    }
+  }
+
+  static void is(String call, double got, double due) {
+    if (got != due) {
+      fail(call + " answered " + got + ", due is " + due);
+    }
+  }
+
+  /** The call throws just this exception, and the object is afterwards as it was. */
+  static void refuses(TreadCranes x, String call, Class<?> due, LongSupplier body) {
+    long before = x.digest();
+    String got = answer(body);
+    if (!got.equals(due.getName())) {
+      fail(call + " answered " + got + ", due is " + due.getName());
+    }
+    if (x.digest() != before) {
+      fail(call + " changed something");
+    }
+  }
+
+  static void outOfBounds(TreadCranes x, String call, LongSupplier body) {
+    refuses(x, call, IndexOutOfBoundsException.class, body);
+  }
+
+  static void badArgument(TreadCranes x, String call, LongSupplier body) {
+    refuses(x, call, IllegalArgumentException.class, body);
+  }
+
+  static void badState(TreadCranes x, String call, LongSupplier body) {
+    refuses(x, call, IllegalStateException.class, body);
+  }
+
+  /** The call's answer, or the name of what it throws. */
+  static String answer(LongSupplier body) {
+    try {
+      return Long.toString(body.getAsLong());
+    } catch (RuntimeException e) {
+      return e.getClass().getName();
+    }
+  }
+
+  static void fail(String what) {
+    wrong++;
+    System.out.println(what);
+  }
+
+  static void end() {
+    System.out.println(wrong == 0 ? "all answers are as due" : wrong + " answers are not as due");
+    if (wrong != 0) {
+      System.exit(1);
+    }
+  }
+}
