@@ -25,7 +25,7 @@ public final class TreadCranes {
   private final ArrayList<Crane> cranes = new ArrayList<Crane>();
   private int ticks;
 
-  /** A barrel; it stands (place), hangs (crane), or is broken. */
+  /** A barrel; level and below mean something only while it stands. */
   private static final class Barrel {
     final int number;
     final int weight;
@@ -391,9 +391,10 @@ public final class TreadCranes {
 
   private int highestBetween(int from, int to) {
     int highest = 0;
-    int last = Math.min(PLACES - 1, Math.max(from, to));
-    for (int place = Math.max(0, Math.min(from, to)); place <= last; place++) {
-      highest = Math.max(highest, heightOf(place));
+    for (int place = 0; place < PLACES; place++) {
+      if (isBetween(place, Math.min(from, to), Math.max(from, to))) {
+        highest = Math.max(highest, heightOf(place));
+      }
     }
     return highest;
   }
@@ -409,11 +410,9 @@ public final class TreadCranes {
 
   private void removeUppermost(int place) {
     Barrel top = uppermostAt(place);
-    if (top != null) {
+    if (top != null && isPlace(place)) {
       uppermost[place] = top.below;
       top.place = NONE;
-      top.level = 0;
-      top.below = null;
     }
   }
 
@@ -482,7 +481,7 @@ public final class TreadCranes {
     int taken = heightOf(from);
     int laid = heightOf(to) + 1;
     int empty = Math.max(crane.hookHeight, highestBetween(crane.hookPlace, from));
-    // The barrel no longer stands at the first place then, so what is there is not in the way.
+    // Once the barrel is taken, the first place is 1 lower, and lets the load go at this height.
     int next = from < to ? from + 1 : from - 1;
     int loaded = Math.max(taken, highestBetween(next, to) + 1);
     int lowering = crane.ticksToWind(loaded - laid);

@@ -57,14 +57,14 @@ public final class BarrelsAndCranesTest {
     for (int weight : new int[] {Integer.MIN_VALUE, -1, 0, 61, Integer.MAX_VALUE}) {
       Check.badArgument(x, "land weight " + weight, () -> x.land(3, weight));
     }
-    fill(x, 3, 8);
+    Check.stand(x, 3, 8, 1);
     Check.badArgument(x, "land weight upon a full place", () -> x.land(3, 0));
     Check.outOfBounds(x, "land place beside a full one", () -> x.land(16, 0));
   }
 
   private static void landStopsAtEightUponAPlace() {
     TreadCranes x = new TreadCranes();
-    fill(x, 4, 8);
+    Check.stand(x, 4, 8, 1);
     Check.badState(x, "ninth land(4, 1)", () -> x.land(4, 1));
     Check.is("land beside it", x.land(5, 1), 8);
   }
@@ -72,7 +72,7 @@ public final class BarrelsAndCranesTest {
   private static void landStopsAtForty() {
     TreadCranes x = new TreadCranes();
     for (int place = 0; place < 5; place++) {
-      fill(x, place, 8);
+      Check.stand(x, place, 8, 1);
     }
     Check.is("count(1)", x.count(1), 40);
     Check.badState(x, "41st land", () -> x.land(9, 1));
@@ -92,9 +92,9 @@ public final class BarrelsAndCranesTest {
     x.land(9, 5);
     x.take(0);
     for (int place = 0; place < 4; place++) {
-      fill(x, place, 8);
+      Check.stand(x, place, 8, 1);
     }
-    fill(x, 4, 6);
+    Check.stand(x, 4, 6, 1);
     Check.is("count(1)", x.count(1), 40);
     Check.is("count(3)", x.count(3), 1);
     Check.is("count(4)", x.count(4), 1);
@@ -129,7 +129,7 @@ public final class BarrelsAndCranesTest {
 
   private static void buildMakesACraneAtRest() {
     TreadCranes x = new TreadCranes();
-    fill(x, 7, 8);
+    Check.stand(x, 7, 8, 1);
     Check.is("build(7, 15, 6, 8)", x.build(7, 15, 6, 8), 0);
     long[] due = {7, 15, 6, 8, 0, 7, 10, -1, 16};
     for (int what = 0; what < 9; what++) {
@@ -211,11 +211,5 @@ public final class BarrelsAndCranesTest {
       Check.outOfBounds(x, "mend " + wild, () -> x.mend(wild));
     }
     Check.outOfBounds(x, "mend(2)", () -> x.mend(2));
-  }
-
-  private static void fill(TreadCranes x, int place, int barrels) {
-    for (int i = 0; i < barrels; i++) {
-      x.land(place, 1);
-    }
   }
 }

@@ -48,7 +48,25 @@ final class Check {
     try {
       return Long.toString(body.getAsLong());
     } catch (RuntimeException e) {
-      return e.getClass().getName();
+      String name = e.getClass().getName();
+      return isThrownByTheCode(e) ? name : name + " of the library";
+    }
+  }
+
+  /** A list throws the same exceptions as the document wants, but the class has to look first. */
+  private static boolean isThrownByTheCode(RuntimeException e) {
+    StackTraceElement[] trace = e.getStackTrace();
+    if (trace.length == 0) {
+      return false;
+    }
+    String thrower = trace[0].getClassName();
+    return thrower.startsWith("TreadCranes") || thrower.equals("Model");
+  }
+
+  /** So many barrels of this weight come to a place. */
+  static void stand(TreadCranes x, int place, int barrels, int weight) {
+    for (int i = 0; i < barrels; i++) {
+      x.land(place, weight);
     }
   }
 

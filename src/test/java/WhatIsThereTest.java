@@ -137,6 +137,10 @@ public final class WhatIsThereTest {
     }
     Check.is("count(6)", x.count(6), 4);
     Check.is("count(2)", x.count(2), 7);
+    for (int i = 0; i < 5; i++) {
+      x.land(0, 1);
+    }
+    Check.is("count(6) by place 0", x.count(6), 5);
   }
 
   private static void countRefuses() {

@@ -11,6 +11,7 @@ public final class WhatWouldBeTest {
     moveDoesNotMindOtherHooks();
     moveRefuses();
     bestIsTheQuickest();
+    bestCanBeTheFirst();
     bestRefuses();
     lastsCountsTicks();
     lastsRefuses();
@@ -25,12 +26,12 @@ public final class WhatWouldBeTest {
   private static void moveAddsItsParts() {
     TreadCranes x = new TreadCranes();
     x.build(5, 10, 3, 8);
-    stand(x, 3, 2, 10);
+    Check.stand(x, 3, 2, 10);
     long before = x.digest();
     // turn 2, down from 10 to 2 in 3, turn 4, down from 2 to 1 in 1
     Check.is("move(0, 3, 7)", x.move(0, 3, 7), 10);
     // laid as high as it was taken
-    stand(x, 7, 1, 10);
+    Check.stand(x, 7, 1, 10);
     Check.is("move(0, 3, 7) level", x.move(0, 3, 7), 9);
     Check.is("move(0, 7, 3)", x.move(0, 7, 3), 2 + 3 + 1 + 4);
     Check.is("the hook stays", x.crane(0, 5), 5);
@@ -38,7 +39,7 @@ public final class WhatWouldBeTest {
     Check.is("no ticks go by", x.count(0), 0);
     TreadCranes y = new TreadCranes();
     y.build(5, 10, 3, 8);
-    stand(y, 3, 2, 10);
+    Check.stand(y, 3, 2, 10);
     Check.is("nothing is changed", y.digest(), before);
   }
 
@@ -46,8 +47,8 @@ public final class WhatWouldBeTest {
     TreadCranes x = new TreadCranes();
     x.build(5, 10, 1, 8);
     x.hoist(0, 1);
-    stand(x, 4, 3, 10);
-    stand(x, 3, 1, 10);
+    Check.stand(x, 4, 3, 10);
+    Check.stand(x, 3, 1, 10);
     // up from 1 to 3 for the way to 3, turn 2, down to 1, taken, up to 4, turn 2, down to 1
     Check.is("move(0, 3, 5)", x.move(0, 3, 5), 2 + 2 + 2 + 3 + 2 + 3);
     // up to 3, turn 1, taken at once, level aside, down to 2
@@ -61,23 +62,28 @@ public final class WhatWouldBeTest {
   private static void moveLooksAtTheWayWithTheBarrel() {
     TreadCranes x = new TreadCranes();
     x.build(0, 15, 2, 8);
-    stand(x, 0, 2, 10);
-    stand(x, 2, 8, 10);
+    Check.stand(x, 0, 2, 10);
+    Check.stand(x, 2, 8, 10);
     // down from 10 to 2, up to 9, aside, down to 1
     Check.is("move(0, 0, 4)", x.move(0, 0, 4), 4 + 4 + 4 + 4);
     Check.is("move(0, 0, 1)", x.move(0, 0, 1), 4 + 0 + 1 + 1);
     Check.is("move(0, 2, 0)", x.move(0, 2, 0), 2 + 1 + 0 + 2 + 3);
-    stand(x, 4, 7, 10);
+    Check.is("past the next place", x.move(0, 2, 4), 2 + 1 + 0 + 2 + 4);
+    Check.stand(x, 1, 1, 10);
+    Check.is("past the next place, the highest", x.move(0, 1, 4), 1 + 5 + 4 + 3 + 4);
+    Check.stand(x, 3, 1, 10);
+    Check.is("back past the next place, the highest", x.move(0, 3, 0), 3 + 5 + 4 + 3 + 3);
+    Check.stand(x, 4, 7, 10);
     Check.is("laid upon 7", x.move(0, 0, 4), 4 + 4 + 4 + 1);
   }
 
   private static void moveCannot() {
     TreadCranes x = new TreadCranes();
     x.build(5, 3, 1, 1);
-    stand(x, 5, 2, 12);
-    stand(x, 6, 8, 1);
-    stand(x, 1, 1, 1);
-    stand(x, 2, 1, 13);
+    Check.stand(x, 5, 2, 12);
+    Check.stand(x, 6, 8, 1);
+    Check.stand(x, 1, 1, 1);
+    Check.stand(x, 2, 1, 13);
     Check.is("move(0, 5, 7)", x.move(0, 5, 7), 8 + 7 + 2 + 8);
     Check.is("same place", x.move(0, 5, 5), -1);
     Check.is("from out of reach", x.move(0, 1, 5), -1);
@@ -92,7 +98,7 @@ public final class WhatWouldBeTest {
     Check.is("with a load", x.move(0, 5, 7), -1);
     TreadCranes y = new TreadCranes();
     y.build(5, 3, 1, 0);
-    stand(y, 5, 2, 1);
+    Check.stand(y, 5, 2, 1);
     Check.is("too heavy, though no lifting is needed", y.move(0, 5, 4), -1);
   }
 
@@ -108,8 +114,8 @@ public final class WhatWouldBeTest {
     }
     x.lay(0);
     Check.is("worn by 90", x.crane(0, 4), 90);
-    stand(x, 1, 4, 1);
-    stand(x, 2, 1, 1);
+    Check.stand(x, 1, 4, 1);
+    Check.stand(x, 2, 1, 1);
     // with 3 below it is worn by just 99
     Check.is("lowered by 3", x.move(0, 0, 2), 0 + 4 + 2 + 3);
     Check.is("lowered by 4", x.move(0, 0, 3), -1);
@@ -121,7 +127,7 @@ public final class WhatWouldBeTest {
     TreadCranes x = new TreadCranes();
     x.build(0, 5, 1, 8);
     x.build(2, 5, 1, 8);
-    stand(x, 0, 1, 1);
+    Check.stand(x, 0, 1, 1);
     x.hoist(1, 0);
     x.hoist(0, 1);
     Check.is("move(0, 0, 2)", x.move(0, 0, 2), 2);
@@ -132,7 +138,7 @@ public final class WhatWouldBeTest {
     TreadCranes x = new TreadCranes();
     Check.outOfBounds(x, "move without cranes", () -> x.move(0, 0, 1));
     x.build(0, 5, 1, 8);
-    stand(x, 0, 1, 1);
+    Check.stand(x, 0, 1, 1);
     for (int wild : WILD) {
       Check.outOfBounds(x, "move crane " + wild, () -> x.move(wild, 0, 1));
       Check.outOfBounds(x, "move from " + wild, () -> x.move(0, wild, 1));
@@ -144,7 +150,7 @@ public final class WhatWouldBeTest {
 
   private static void bestIsTheQuickest() {
     TreadCranes x = new TreadCranes();
-    stand(x, 4, 1, 20);
+    Check.stand(x, 4, 1, 20);
     Check.is("without cranes", x.best(4, 5), -1);
     x.build(4, 1, 6, 8);
     x.build(4, 2, 1, 8);
@@ -163,6 +169,16 @@ public final class WhatWouldBeTest {
     Check.is("out of all reach", x.best(4, 10), -1);
     Check.is("the same place", x.best(4, 4), -1);
     Check.is("no barrel", x.best(5, 4), -1);
+  }
+
+  private static void bestCanBeTheFirst() {
+    TreadCranes x = new TreadCranes();
+    Check.stand(x, 4, 1, 20);
+    x.build(4, 5, 1, 8);
+    x.build(9, 5, 1, 8);
+    Check.is("the nearer", x.best(4, 5), 0);
+    x.build(4, 5, 1, 8);
+    Check.is("the first of two", x.best(4, 5), 0);
   }
 
   private static void bestRefuses() {
@@ -279,8 +295,8 @@ public final class WhatWouldBeTest {
     TreadCranes x = new TreadCranes();
     x.build(5, 2, 1, 8);
     x.build(9, 2, 3, 4);
-    stand(x, 5, 3, 7);
-    stand(x, 6, 2, 33);
+    Check.stand(x, 5, 3, 7);
+    Check.stand(x, 6, 2, 33);
     x.hoist(0, 3);
     x.take(0);
     x.hoist(0, 8);
@@ -305,11 +321,5 @@ public final class WhatWouldBeTest {
       d = d * 31 + x.crane(i / 9, i % 9);
     }
     return d;
-  }
-
-  private static void stand(TreadCranes x, int place, int barrels, int weight) {
-    for (int i = 0; i < barrels; i++) {
-      x.land(place, weight);
-    }
   }
 }

@@ -63,7 +63,7 @@ public final class WorkTest {
     TreadCranes x = new TreadCranes();
     x.build(5, 10, 1, 1);
     x.hoist(0, 1);
-    stand(x, 7, 2, 1);
+    Check.stand(x, 7, 2, 1);
     Check.badState(x, "turn past 7", () -> x.turn(0, 9));
     Check.badState(x, "turn to 7", () -> x.turn(0, 7));
     Check.is("turn ahead of 7", x.turn(0, 6), 1);
@@ -77,8 +77,8 @@ public final class WorkTest {
   private static void turnLooksAtTheLoad() {
     TreadCranes x = new TreadCranes();
     x.build(5, 10, 1, 8);
-    stand(x, 5, 1, 3);
-    stand(x, 7, 1, 3);
+    Check.stand(x, 5, 1, 3);
+    Check.stand(x, 7, 1, 3);
     x.hoist(0, 1);
     x.take(0);
     Check.badState(x, "turn past 7 with a load", () -> x.turn(0, 8));
@@ -123,7 +123,7 @@ public final class WorkTest {
   private static void hoistStaysAboveThePlace() {
     TreadCranes x = new TreadCranes();
     x.build(0, 1, 1, 8);
-    stand(x, 0, 3, 2);
+    Check.stand(x, 0, 3, 2);
     Check.badState(x, "hoist(0, 2)", () -> x.hoist(0, 2));
     Check.is("hoist(0, 3)", x.hoist(0, 3), 7);
     x.take(0);
@@ -134,7 +134,7 @@ public final class WorkTest {
   private static void hoistNeedsStrengthOnlyToLiftALoad() {
     TreadCranes x = new TreadCranes();
     x.build(0, 1, 5, 2);
-    stand(x, 0, 1, 5);
+    Check.stand(x, 0, 1, 5);
     Check.is("strength", x.crane(0, 8), 4);
     Check.is("hoist empty", x.hoist(0, 20), 2);
     x.hoist(0, 1);
@@ -149,7 +149,7 @@ public final class WorkTest {
     Check.is("hoist(0, 2) without walkers", x.hoist(0, 2), 2);
     TreadCranes y = new TreadCranes();
     y.build(0, 1, 1, 1);
-    stand(y, 0, 1, 12);
+    Check.stand(y, 0, 1, 12);
     y.hoist(0, 1);
     y.take(0);
     Check.is("a weight as the strength", y.hoist(0, 2), 1);
@@ -215,7 +215,7 @@ public final class WorkTest {
   private static void takeTakesTheUppermost() {
     TreadCranes x = new TreadCranes();
     x.build(3, 2, 1, 8);
-    stand(x, 3, 2, 5);
+    Check.stand(x, 3, 2, 5);
     x.hoist(0, 2);
     int ticks = x.count(0);
     Check.is("take(0)", x.take(0), 1);
@@ -240,7 +240,7 @@ public final class WorkTest {
     x.hoist(0, 0);
     Check.badState(x, "take from nothing at 0", () -> x.take(0));
     x.hoist(0, 3);
-    stand(x, 3, 2, 5);
+    Check.stand(x, 3, 2, 5);
     Check.badState(x, "take from too high", () -> x.take(0));
     x.hoist(0, 2);
     x.take(0);
@@ -255,7 +255,7 @@ public final class WorkTest {
   private static void takeNeedsNoStrength() {
     TreadCranes x = new TreadCranes();
     x.build(3, 2, 1, 0);
-    stand(x, 3, 1, 60);
+    Check.stand(x, 3, 1, 60);
     x.hoist(0, 1);
     Check.is("take without walkers", x.take(0), 0);
     Check.is("lay without walkers", x.lay(0), 1);
@@ -264,8 +264,8 @@ public final class WorkTest {
   private static void laySetsDown() {
     TreadCranes x = new TreadCranes();
     x.build(3, 2, 1, 8);
-    stand(x, 3, 1, 5);
-    stand(x, 4, 2, 6);
+    Check.stand(x, 3, 1, 5);
+    Check.stand(x, 4, 2, 6);
     x.hoist(0, 1);
     x.take(0);
     x.hoist(0, 3);
@@ -292,8 +292,8 @@ public final class WorkTest {
     Check.outOfBounds(x, "lay(1)", () -> x.lay(1));
     x.hoist(0, 1);
     Check.badState(x, "lay without a load", () -> x.lay(0));
-    stand(x, 3, 1, 1);
-    stand(x, 4, 8, 1);
+    Check.stand(x, 3, 1, 1);
+    Check.stand(x, 4, 8, 1);
     x.take(0);
     x.hoist(0, 2);
     Check.badState(x, "lay from too high", () -> x.lay(0));
@@ -313,7 +313,7 @@ public final class WorkTest {
     TreadCranes x = new TreadCranes();
     x.build(3, 2, 1, 8);
     x.build(3, 2, 1, 8);
-    stand(x, 3, 2, 1);
+    Check.stand(x, 3, 2, 1);
     x.hoist(0, 2);
     x.take(0);
     x.hoist(1, 1);
@@ -326,12 +326,6 @@ public final class WorkTest {
     Check.badState(x, "lay through the empty hook", () -> x.lay(1));
     x.hoist(0, 2);
     Check.is("lay up to the empty hook", x.lay(1), 2);
-  }
-
-  private static void stand(TreadCranes x, int place, int barrels, int weight) {
-    for (int i = 0; i < barrels; i++) {
-      x.land(place, weight);
-    }
   }
 
   /** A crane of 8 walkers at place 0, with barrel 0 as its load, its hook at 1. */
