@@ -1,169 +1,256 @@
+import java.util.function.Supplier;
+
 /** Promises 1 to 5: a new object, land, build, man, mend. */
 public final class BarrelsAndCranesTest {
-  private static final int[] WILD = {Integer.MIN_VALUE, -1000, -1, 16, 17, 1000, Integer.MAX_VALUE};
-
   public static void main(String[] args) {
     aNewObjectIsEmpty();
-    landNumbersInOrder();
-    landRefusesWrongArguments();
-    landStopsAtEightUponAPlace();
-    landStopsAtForty();
-    fortyCountBrokenAndHangingOnes();
-    landLooksAtHooks();
-    landLooksAtLoadedHooks();
+    aNewObjectHasNoCranesAndBarrels();
+    objectsShareNothing();
+    landAnswersTheNumber();
+    landPutsTheBarrelUponThePlace();
+    landOffTheQuay();
+    landOfAWrongWeight();
+    landWhenThereAre40();
+    landWhenThereAre40WithHangingAndBrokenOnes();
+    landUpon8();
+    landUnderAnEmptyHook();
+    landUnderALoad();
+    landUnderSeveralHooks();
+    buildAnswersTheNumber();
     buildMakesACraneAtRest();
-    buildRefusesWrongArguments();
-    buildStopsAtFive();
+    buildOffTheQuay();
+    buildOfAWrongReach();
+    buildOfAWrongDrum();
+    buildOfWrongWalkers();
+    buildWhenThereAre5();
     manAnswersThoseBefore();
-    manRefusesWrongArguments();
+    manOfNoCrane();
+    manOfWrongWalkers();
     mendAnswersTheOldWear();
+    mendOfNoCrane();
     Check.end();
   }
 
+  /** "Creates an empty quay without cranes." */
   private static void aNewObjectIsEmpty() {
     TreadCranes x = new TreadCranes();
     for (int what = 0; what < 7; what++) {
       Check.is("new count(" + what + ")", x.count(what), 0);
     }
-    for (int place = 0; place < 16; place++) {
-      Check.is("new place 0", x.place(place, 0), 0);
-      Check.is("new place 1", x.place(place, 1), -1);
-      Check.is("new place 2", x.place(place, 2), 0);
-      Check.is("new place 3", x.place(place, 3), 0);
+    long[] due = {0, -1, 0, 0};
+    for (int i = 0; i < 16 * 4; i++) {
+      Check.is("new place(" + i / 4 + ", " + i % 4 + ")", x.place(i / 4, i % 4), due[i % 4]);
     }
-    Check.outOfBounds(x, "new barrel(0, 0)", () -> x.barrel(0, 0));
-    Check.outOfBounds(x, "new crane(0, 0)", () -> x.crane(0, 0));
-    Check.is("new mean", x.mean(), 0.0);
+    Check.is("new mean()", x.mean(), 0.0);
+    Check.is("new best(0, 1)", x.best(0, 1), -1);
   }
 
-  private static void landNumbersInOrder() {
+  private static void aNewObjectHasNoCranesAndBarrels() {
+    Check.outOfBounds("new barrel(0, 0)", TreadCranes::new, x -> x.barrel(0, 0));
+    Check.outOfBounds("new crane(0, 0)", TreadCranes::new, x -> x.crane(0, 0));
+  }
+
+  private static void objectsShareNothing() {
+    long due = new TreadCranes().digest();
+    TreadCranes used = new TreadCranes();
+    TreadCranes beside = new TreadCranes();
+    Scenes.mixed(used);
+    Check.is("an object beside a used one", beside.digest(), due);
+    Check.is("an object made after a used one", new TreadCranes().digest(), due);
+  }
+
+  private static void landAnswersTheNumber() {
     TreadCranes x = new TreadCranes();
     Check.is("land(0, 1)", x.land(0, 1), 0);
     Check.is("land(15, 60)", x.land(15, 60), 1);
     Check.is("land(0, 7)", x.land(0, 7), 2);
+  }
+
+  private static void landPutsTheBarrelUponThePlace() {
+    TreadCranes x = new TreadCranes();
+    x.land(0, 1);
+    x.land(15, 60);
+    x.land(0, 7);
     Check.is("place(0, 0)", x.place(0, 0), 2);
     Check.is("place(0, 1)", x.place(0, 1), 2);
+    Check.is("place(0, 2)", x.place(0, 2), 8);
     Check.is("place(15, 0)", x.place(15, 0), 1);
     Check.is("barrel(1, 0)", x.barrel(1, 0), 60);
     Check.is("barrel(1, 1)", x.barrel(1, 1), 15);
+    Check.is("landing takes no ticks", x.count(0), 0);
   }
 
-  private static void landRefusesWrongArguments() {
-    TreadCranes x = new TreadCranes();
-    for (int wild : WILD) {
-      Check.outOfBounds(x, "land place " + wild, () -> x.land(wild, 5));
-      Check.outOfBounds(x, "land both " + wild, () -> x.land(wild, 0));
+  /** "if place is not 0 to 15". */
+  private static void landOffTheQuay() {
+    for (int place : Check.outside(0, 15)) {
+      Check.outOfBounds("land(" + place + ", 5)", TreadCranes::new, x -> x.land(place, 5));
     }
-    for (int weight : new int[] {Integer.MIN_VALUE, -1, 0, 61, Integer.MAX_VALUE}) {
-      Check.badArgument(x, "land weight " + weight, () -> x.land(3, weight));
+    Check.answers("land(0, 5)", TreadCranes::new, x -> x.land(0, 5), 0);
+    Check.answers("land(15, 5)", TreadCranes::new, x -> x.land(15, 5), 0);
+  }
+
+  /** "if weight is not 1 to 60". */
+  private static void landOfAWrongWeight() {
+    for (int weight : Check.outside(1, 60)) {
+      Check.badArgument("land(3, " + weight + ")", TreadCranes::new, x -> x.land(3, weight));
     }
-    Check.stand(x, 3, 8, 1);
-    Check.badArgument(x, "land weight upon a full place", () -> x.land(3, 0));
-    Check.outOfBounds(x, "land place beside a full one", () -> x.land(16, 0));
+    Check.answers("land(3, 1)", TreadCranes::new, x -> x.land(3, 1), 0);
+    Check.answers("land(3, 60)", TreadCranes::new, x -> x.land(3, 60), 0);
   }
 
-  private static void landStopsAtEightUponAPlace() {
-    TreadCranes x = new TreadCranes();
-    Check.stand(x, 4, 8, 1);
-    Check.badState(x, "ninth land(4, 1)", () -> x.land(4, 1));
-    Check.is("land beside it", x.land(5, 1), 8);
+  /** "if there are 40". */
+  private static void landWhenThereAre40() {
+    Supplier<TreadCranes> last = Check.after(x -> Scenes.landed(x, 39));
+    Supplier<TreadCranes> full = Check.after(x -> Scenes.landed(x, 40));
+    Check.answers("the 40th, at an empty place", last, x -> x.land(9, 1), 39);
+    Check.answers("the 40th, upon 7", last, x -> x.land(4, 1), 39);
+    Check.badState("the 41st, at an empty place", full, x -> x.land(9, 1));
   }
 
-  private static void landStopsAtForty() {
-    TreadCranes x = new TreadCranes();
-    for (int place = 0; place < 5; place++) {
-      Check.stand(x, place, 8, 1);
+  /** "There are at most 40 in all": those that hang or are broken too. */
+  private static void landWhenThereAre40WithHangingAndBrokenOnes() {
+    Supplier<TreadCranes> full = Check.after(x -> {
+      Scenes.fallen(x);
+      x.hoist(0, 1);
+      x.land(0, 5);
+      x.take(0);
+      for (int i = 0; i < 38; i++) {
+        x.land(1 + i / 8, 1);
+      }
+    });
+    Check.answers("in all", full, x -> x.count(1), 40);
+    Check.answers("standing", full, x -> x.count(2), 38);
+    Check.answers("hanging", full, x -> x.count(3), 1);
+    Check.answers("broken", full, x -> x.count(4), 1);
+    Check.badState("the 41st", full, x -> x.land(12, 1));
+  }
+
+  /** "8 stand there". */
+  private static void landUpon8() {
+    Supplier<TreadCranes> seven = Check.after(x -> Scenes.stand(x, 4, 7, 1));
+    Supplier<TreadCranes> eight = Check.after(x -> Scenes.stand(x, 4, 8, 1));
+    Check.answers("land upon 7", seven, x -> x.land(4, 1), 7);
+    Check.badState("land upon 8", eight, x -> x.land(4, 1));
+    Check.answers("land beside 8", eight, x -> x.land(5, 1), 8);
+  }
+
+  /** "or a hook is over this place and would not be high enough then". */
+  private static void landUnderAnEmptyHook() {
+    for (int height = 1; height <= 8; height++) {
+      int h = height;
+      Supplier<TreadCranes> wharf = Check.after(x -> {
+        x.build(2, 3, 1, 1);
+        Scenes.stand(x, 2, h - 1, 1);
+        x.hoist(0, h);
+      });
+      Check.answers("land up to the hook at " + h, wharf, x -> x.land(2, 1), h - 1);
+      Supplier<TreadCranes> low = Check.after(x -> {
+        x.build(2, 3, 1, 1);
+        Scenes.stand(x, 2, h - 1, 1);
+        x.hoist(0, h - 1);
+      });
+      Check.badState("land through the hook at " + (h - 1), low, x -> x.land(2, 1));
+      Check.answers("land beside the hook", low, x -> x.land(3, 1), h - 1);
     }
-    Check.is("count(1)", x.count(1), 40);
-    Check.badState(x, "41st land", () -> x.land(9, 1));
+    Supplier<TreadCranes> aside = Check.after(x -> {
+      x.build(2, 3, 1, 1);
+      x.hoist(0, 0);
+      x.turn(0, 3);
+    });
+    Check.answers("land at the crane, its hook aside", aside, x -> x.land(2, 1), 0);
+    Check.badState("land through the hook aside", aside, x -> x.land(3, 1));
   }
 
-  private static void fortyCountBrokenAndHangingOnes() {
-    TreadCranes x = new TreadCranes();
-    x.build(9, 5, 1, 8);
-    x.land(9, 60);
-    x.hoist(0, 1);
-    x.take(0);
-    x.hoist(0, 20);
-    x.hoist(0, 1);
-    x.hoist(0, 20);
-    Check.is("the fall", x.hoist(0, 1), -1);
-    x.hoist(0, 1);
-    x.land(9, 5);
-    x.take(0);
-    for (int place = 0; place < 4; place++) {
-      Check.stand(x, place, 8, 1);
+  /** "would not be high enough then": with a load it has to be 1 higher. */
+  private static void landUnderALoad() {
+    Supplier<TreadCranes> low = Check.after(x -> Scenes.loaded(x, 1, 5));
+    Supplier<TreadCranes> high = Check.after(x -> {
+      Scenes.loaded(x, 1, 5);
+      x.hoist(0, 2);
+    });
+    Check.badState("land through the load", low, x -> x.land(0, 5));
+    Check.answers("land up to the load", high, x -> x.land(0, 5), 1);
+  }
+
+  /** "a hook is over this place": any one of them. */
+  private static void landUnderSeveralHooks() {
+    for (int i = 0; i < 5; i++) {
+      int low = i;
+      Supplier<TreadCranes> wharf = Check.after(x -> {
+        Scenes.built(x, 5);
+        x.hoist(low, 0);
+      });
+      Check.badState("land through hook " + low, wharf, x -> x.land(9, 1));
+      Check.answers("land after it was raised", wharf, x -> {
+        x.hoist(low, 1);
+        return x.land(9, 1);
+      }, 0);
     }
-    Check.stand(x, 4, 6, 1);
-    Check.is("count(1)", x.count(1), 40);
-    Check.is("count(3)", x.count(3), 1);
-    Check.is("count(4)", x.count(4), 1);
-    Check.badState(x, "41st land", () -> x.land(12, 1));
   }
 
-  private static void landLooksAtHooks() {
+  private static void buildAnswersTheNumber() {
     TreadCranes x = new TreadCranes();
-    x.build(2, 3, 1, 1);
-    x.hoist(0, 1);
-    Check.is("land up to the hook", x.land(2, 5), 0);
-    Check.badState(x, "land through the hook", () -> x.land(2, 5));
-    x.build(2, 3, 1, 1);
-    Check.badState(x, "land through the lower hook", () -> x.land(2, 5));
-    x.turn(0, 3);
-    Check.is("land below the other hook", x.land(2, 5), 1);
-    Check.is("land below the moved hook", x.land(3, 5), 2);
-    Check.badState(x, "land through the moved hook", () -> x.land(3, 5));
-  }
-
-  private static void landLooksAtLoadedHooks() {
-    TreadCranes x = new TreadCranes();
-    x.build(2, 3, 1, 8);
-    x.land(2, 5);
-    x.hoist(0, 1);
-    x.take(0);
-    Check.badState(x, "land through the load", () -> x.land(2, 5));
-    x.hoist(0, 2);
-    Check.is("land up to the load", x.land(2, 5), 1);
-    Check.badState(x, "land through the load again", () -> x.land(2, 5));
+    for (int i = 0; i < 5; i++) {
+      Check.is("build", x.build(15 - i, 1, 1, 0), i);
+      Check.is("count(5)", x.count(5), i + 1);
+    }
   }
 
   private static void buildMakesACraneAtRest() {
     TreadCranes x = new TreadCranes();
-    Check.stand(x, 7, 8, 1);
-    Check.is("build(7, 15, 6, 8)", x.build(7, 15, 6, 8), 0);
-    long[] due = {7, 15, 6, 8, 0, 7, 10, -1, 16};
+    Scenes.stand(x, 7, 8, 1);
+    x.build(7, 14, 5, 8);
+    x.build(6, 15, 6, 0);
+    long[] first = {7, 14, 5, 8, 0, 7, 10, -1, 19};
+    long[] second = {6, 15, 6, 0, 0, 6, 10, -1, 0};
     for (int what = 0; what < 9; what++) {
-      Check.is("crane(0, " + what + ")", x.crane(0, what), due[what]);
+      Check.is("crane(0, " + what + ")", x.crane(0, what), first[what]);
+      Check.is("crane(1, " + what + ")", x.crane(1, what), second[what]);
     }
-    Check.is("build at the same place", x.build(7, 1, 1, 0), 1);
-    Check.is("place(7, 3)", x.place(7, 3), 2);
-    Check.is("count(5)", x.count(5), 2);
-    Check.is("count(0)", x.count(0), 0);
+    Check.is("building takes no ticks", x.count(0), 0);
   }
 
-  private static void buildRefusesWrongArguments() {
-    TreadCranes x = new TreadCranes();
-    for (int wild : WILD) {
-      Check.outOfBounds(x, "build place " + wild, () -> x.build(wild, 5, 1, 1));
-      Check.outOfBounds(x, "build all " + wild, () -> x.build(wild, wild, wild, wild));
-      Check.badArgument(x, "build reach " + wild, () -> x.build(0, wild, 1, 1));
-      Check.badArgument(x, "build drum " + wild, () -> x.build(0, 5, wild, 1));
-      Check.badArgument(x, "build walkers " + wild, () -> x.build(0, 5, 1, wild));
+  /** "if place is not 0 to 15". */
+  private static void buildOffTheQuay() {
+    for (int place : Check.outside(0, 15)) {
+      Check.outOfBounds("build(" + place + ", 1, 1, 0)", TreadCranes::new, x -> x.build(place, 1, 1, 0));
     }
-    Check.badArgument(x, "build reach 0", () -> x.build(0, 0, 1, 1));
-    Check.badArgument(x, "build drum 0", () -> x.build(0, 5, 0, 1));
-    Check.badArgument(x, "build drum 7", () -> x.build(0, 5, 7, 1));
-    Check.badArgument(x, "build walkers 9", () -> x.build(0, 5, 1, 9));
+    Check.answers("build(0, 1, 1, 0)", TreadCranes::new, x -> x.build(0, 1, 1, 0), 0);
+    Check.answers("build(15, 1, 1, 0)", TreadCranes::new, x -> x.build(15, 1, 1, 0), 0);
   }
 
-  private static void buildStopsAtFive() {
-    TreadCranes x = new TreadCranes();
-    for (int i = 0; i < 5; i++) {
-      Check.is("build", x.build(15, 1, 1, 0), i);
+  /** "if reach is not 1 to 15". */
+  private static void buildOfAWrongReach() {
+    for (int reach : Check.outside(1, 15)) {
+      Check.badArgument("build(3, " + reach + ", 1, 0)", TreadCranes::new, x -> x.build(3, reach, 1, 0));
     }
-    Check.badState(x, "sixth build", () -> x.build(0, 1, 1, 0));
-    Check.badArgument(x, "sixth build, wrong drum", () -> x.build(0, 1, 0, 0));
-    Check.outOfBounds(x, "sixth build, wrong place", () -> x.build(-1, 1, 0, 0));
+    Check.answers("build(3, 1, 1, 0)", TreadCranes::new, x -> x.build(3, 1, 1, 0), 0);
+    Check.answers("build(3, 15, 1, 0)", TreadCranes::new, x -> x.build(3, 15, 1, 0), 0);
+  }
+
+  /** "drum is not 1 to 6". */
+  private static void buildOfAWrongDrum() {
+    for (int drum : Check.outside(1, 6)) {
+      Check.badArgument("build(3, 1, " + drum + ", 0)", TreadCranes::new, x -> x.build(3, 1, drum, 0));
+    }
+    Check.answers("build(3, 1, 1, 0)", TreadCranes::new, x -> x.build(3, 1, 1, 0), 0);
+    Check.answers("build(3, 1, 6, 0)", TreadCranes::new, x -> x.build(3, 1, 6, 0), 0);
+  }
+
+  /** "or walkers is not 0 to 8". */
+  private static void buildOfWrongWalkers() {
+    for (int walkers : Check.outside(0, 8)) {
+      Check.badArgument("build(3, 1, 1, " + walkers + ")", TreadCranes::new, x -> x.build(3, 1, 1, walkers));
+    }
+    Check.answers("build(3, 1, 1, 0)", TreadCranes::new, x -> x.build(3, 1, 1, 0), 0);
+    Check.answers("build(3, 1, 1, 8)", TreadCranes::new, x -> x.build(3, 1, 1, 8), 0);
+  }
+
+  /** "if there are 5". */
+  private static void buildWhenThereAre5() {
+    Check.answers("the fifth", Check.after(x -> Scenes.built(x, 4)), x -> x.build(9, 1, 1, 0), 4);
+    Check.badState("the sixth", Check.after(x -> Scenes.built(x, 5)), x -> x.build(9, 1, 1, 0));
+    Check.badState("the sixth elsewhere", Check.after(x -> Scenes.built(x, 5)), x -> x.build(0, 15, 6, 8));
   }
 
   private static void manAnswersThoseBefore() {
@@ -173,43 +260,60 @@ public final class BarrelsAndCranesTest {
     Check.is("man(0, 8)", x.man(0, 8), 3);
     Check.is("man(0, 0)", x.man(0, 0), 8);
     Check.is("man(0, 2)", x.man(0, 2), 0);
+    Check.is("man(0, 2) again", x.man(0, 2), 2);
     Check.is("crane(0, 3)", x.crane(0, 3), 2);
     Check.is("crane(0, 8)", x.crane(0, 8), 4);
     Check.is("crane(1, 3)", x.crane(1, 3), 4);
+    Check.is("manning takes no ticks", x.count(0), 0);
   }
 
-  private static void manRefusesWrongArguments() {
-    TreadCranes x = new TreadCranes();
-    Check.outOfBounds(x, "man without cranes", () -> x.man(0, 1));
-    x.build(0, 5, 5, 3);
-    for (int wild : WILD) {
-      Check.outOfBounds(x, "man crane " + wild, () -> x.man(wild, 1));
-      Check.outOfBounds(x, "man both " + wild, () -> x.man(wild, 9));
-      Check.badArgument(x, "man walkers " + wild, () -> x.man(0, wild));
+  /** "if there is no such crane". */
+  private static void manOfNoCrane() {
+    Check.outOfBounds("man without cranes", TreadCranes::new, x -> x.man(0, 1));
+    for (int crane : Check.outside(0, 1)) {
+      Check.outOfBounds("man(" + crane + ", 1)", Check.after(x -> Scenes.built(x, 2)), x -> x.man(crane, 1));
     }
-    Check.outOfBounds(x, "man(1, 1)", () -> x.man(1, 1));
-    Check.badArgument(x, "man(0, 9)", () -> x.man(0, 9));
+    for (int crane : Check.outside(0, 4)) {
+      Check.outOfBounds("man(" + crane + ", 1) of 5", Check.after(x -> Scenes.built(x, 5)), x -> x.man(crane, 1));
+    }
+    Check.answers("man of the last", Check.after(x -> Scenes.built(x, 5)), x -> x.man(4, 1), 8);
+  }
+
+  /** "if walkers is not 0 to 8". */
+  private static void manOfWrongWalkers() {
+    Supplier<TreadCranes> wharf = Check.after(x -> x.build(3, 3, 3, 3));
+    for (int walkers : Check.outside(0, 8)) {
+      Check.badArgument("man(0, " + walkers + ")", wharf, x -> x.man(0, walkers));
+    }
+    Check.answers("man(0, 0)", wharf, x -> x.man(0, 0), 3);
+    Check.answers("man(0, 8)", wharf, x -> x.man(0, 8), 3);
   }
 
   private static void mendAnswersTheOldWear() {
-    TreadCranes x = new TreadCranes();
-    Check.outOfBounds(x, "mend without cranes", () -> x.mend(0));
-    x.build(0, 5, 1, 8);
-    x.build(0, 5, 1, 8);
-    Check.is("mend unworn", x.mend(0), 0);
-    x.land(0, 20);
-    x.hoist(0, 1);
-    x.take(0);
-    x.hoist(0, 11);
-    x.hoist(0, 1);
-    Check.is("crane(0, 4)", x.crane(0, 4), 20);
-    Check.is("mend of the other", x.mend(1), 0);
-    Check.is("mend(0)", x.mend(0), 20);
-    Check.is("crane(0, 4) then", x.crane(0, 4), 0);
-    Check.is("mend(0) again", x.mend(0), 0);
-    for (int wild : WILD) {
-      Check.outOfBounds(x, "mend " + wild, () -> x.mend(wild));
+    for (int worn : new int[] {0, 1, 20, 98, 99}) {
+      TreadCranes x = new TreadCranes();
+      Scenes.loadedAndWorn(x, 60, worn);
+      x.build(0, 5, 1, 8);
+      int ticks = x.count(0);
+      Check.is("mend of the other", x.mend(1), 0);
+      Check.is("mend(0)", x.mend(0), worn);
+      Check.is("crane(0, 4) then", x.crane(0, 4), 0);
+      Check.is("mend(0) again", x.mend(0), 0);
+      Check.is("the load stays", x.crane(0, 7), 1);
+      Check.is("mending takes no ticks", x.count(0), ticks);
     }
-    Check.outOfBounds(x, "mend(2)", () -> x.mend(2));
+    Check.answers("mend after a fall", Check.after(Scenes::fallen), x -> x.mend(0), 99);
+  }
+
+  /** "if there is no such crane". */
+  private static void mendOfNoCrane() {
+    Check.outOfBounds("mend without cranes", TreadCranes::new, x -> x.mend(0));
+    for (int crane : Check.outside(0, 0)) {
+      Check.outOfBounds("mend(" + crane + ")", Check.after(Scenes::fallen), x -> x.mend(crane));
+    }
+    for (int crane : Check.outside(0, 4)) {
+      Check.outOfBounds("mend(" + crane + ") of 5", Check.after(x -> Scenes.built(x, 5)), x -> x.mend(crane));
+    }
+    Check.answers("mend of the last", Check.after(x -> Scenes.built(x, 5)), x -> x.mend(4), 0);
   }
 }

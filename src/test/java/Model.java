@@ -213,7 +213,7 @@ final class Model {
     return high(c[OVER]);
   }
 
-  private int place(int place, int what) {
+  int place(int place, int what) {
     bounds(in(place, 0, 15) && in(what, 0, 3));
     List<Integer> stack = quay.get(place);
     return switch (what) {
@@ -243,13 +243,13 @@ final class Model {
     };
   }
 
-  private int crane(int crane, int what) {
+  int crane(int crane, int what) {
     int[] c = existing(crane);
     bounds(in(what, 0, 8));
     return what < 8 ? c[what] : 12 * c[WALKERS] / c[DRUM];
   }
 
-  private int count(int what) {
+  int count(int what) {
     bounds(in(what, 0, 6));
     return switch (what) {
       case 0 -> ticks;

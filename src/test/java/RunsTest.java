@@ -8,7 +8,8 @@ import java.util.function.LongSupplier;
  */
 public final class RunsTest {
   private static final int RUNS = 1500;
-  private static final int CALLS = 512;
+  // The digest at the end of a run is the 512th call, the last that is promised.
+  private static final int CALLS = 511;
   private static final String[] CALLED = {
     "land", "land", "land", "build", "man", "mend", "turn", "turn", "turn", "turn", "hoist", "hoist",
     "hoist", "hoist", "hoist", "hoist", "take", "take", "take", "take", "lay", "lay", "lay", "lay",
@@ -50,8 +51,8 @@ public final class RunsTest {
         name = "hoist";
       }
       boolean wild = next(25) == 0;
-      int a = first(x, name, wild);
-      int b = second(x, name, a, wild);
+      int a = first(model, name, wild);
+      int b = second(model, name, a, wild);
       int c = wild ? wildNumber() : name.equals("build") ? 1 + next(1 + next(6)) : next(16);
       int d = wild ? wildNumber() : Math.max(next(9), next(9));
       String got = answer(x, name, a, b, c, d);
@@ -95,29 +96,29 @@ public final class RunsTest {
     return Check.answer(call);
   }
 
-  private static int first(TreadCranes x, String name, boolean wild) {
+  private static int first(Model model, String name, boolean wild) {
     if (wild && next(2) == 0) {
       return wildNumber();
     }
     return switch (name) {
       case "land", "build", "place" -> next(16);
       case "best" -> next(16);
-      case "barrel" -> next(Math.max(1, x.count(1)));
+      case "barrel" -> next(Math.max(1, model.count(1)));
       case "count" -> next(7);
-      default -> next(Math.max(1, x.count(5)));
+      default -> next(Math.max(1, model.count(5)));
     };
   }
 
-  private static int second(TreadCranes x, String name, int a, boolean wild) {
+  private static int second(Model model, String name, int a, boolean wild) {
     if (wild) {
       return wildNumber();
     }
-    boolean aCrane = a >= 0 && a < x.count(5);
+    boolean aCrane = a >= 0 && a < model.count(5);
     return switch (name) {
       case "land", "lasts" -> 1 + next(60);
       case "build" -> 1 + next(15);
       case "man" -> Math.max(next(9), next(9));
-      case "hoist" -> aCrane && next(3) > 0 ? fittingHeight(x, a) : next(21);
+      case "hoist" -> aCrane && next(3) > 0 ? fittingHeight(model, a) : next(21);
       case "place" -> next(4);
       case "barrel" -> next(5);
       case "crane" -> next(9);
@@ -126,12 +127,12 @@ public final class RunsTest {
   }
 
   /** Heights at random would seldom allow take and lay, and hardly ever wear a brake out. */
-  private static int fittingHeight(TreadCranes x, int crane) {
-    int placeHeight = x.place(x.crane(crane, 5), 0);
-    if (x.crane(crane, 7) < 0) {
+  private static int fittingHeight(Model model, int crane) {
+    int placeHeight = model.place(model.crane(crane, 5), 0);
+    if (model.crane(crane, 7) < 0) {
       return placeHeight;
     }
-    return x.crane(crane, 6) < 15 && next(4) > 0 ? 20 - next(3) : placeHeight + 1;
+    return model.crane(crane, 6) < 15 && next(4) > 0 ? 20 - next(3) : placeHeight + 1;
   }
 
   private static int wildNumber() {

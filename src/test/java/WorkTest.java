@@ -1,26 +1,38 @@
+import java.util.function.Supplier;
+
 /** Promises 6 to 9: turn, hoist, take, lay. */
 public final class WorkTest {
-  private static final int[] WILD = {Integer.MIN_VALUE, -1000, -1, 21, 1000, Integer.MAX_VALUE};
-
   public static void main(String[] args) {
     turnTakesATickAPlace();
-    turnRefusesWrongArguments();
-    turnStaysWithinReach();
-    turnLooksAtEachPlaceOfTheWay();
-    turnLooksAtTheLoad();
-    hoistRoundsTicksUp();
-    hoistRefusesWrongArguments();
-    hoistStaysAboveThePlace();
-    hoistNeedsStrengthOnlyToLiftALoad();
-    loweringALoadWearsTheBrake();
-    aLoadFallsOnlyBeyondNinetyNine();
-    aFallLeavesTheHook();
+    turnOfNoCrane();
+    turnOffTheQuay();
+    turnFartherThanTheReach();
+    turnThroughAPlaceOfTheWay();
+    turnPastPlacesThatAreNotOnTheWay();
+    turnThroughAPlaceWithALoad();
+    hoistAnswersTheTicks();
+    hoistOfNoCrane();
+    hoistToAWrongHeight();
+    hoistIntoThePlaceBelow();
+    hoistOfTheLoadIntoThePlaceBelow();
+    hoistOfALoadThatIsTooHeavy();
+    hoistWithoutALoadNeedsNoStrength();
+    loweringNeedsNoStrength();
+    hoistAnswersThatTheLoadFalls();
     takeTakesTheUppermost();
-    takeRefuses();
+    takeOfNoCrane();
+    takeWithALoad();
+    takeWhereNoBarrelStands();
+    takeFromTooHigh();
     takeNeedsNoStrength();
     laySetsDown();
-    layRefuses();
-    layLooksAtOtherHooks();
+    layOfNoCrane();
+    layWithoutALoad();
+    layFromTooHigh();
+    layUpon8();
+    layUnderAnotherHook();
+    layUnderAnotherLoad();
+    layNeedsNoStrength();
     Check.end();
   }
 
@@ -32,63 +44,111 @@ public final class WorkTest {
     Check.is("turn(0, 0) again", x.turn(0, 0), 0);
     Check.is("crane(0, 5)", x.crane(0, 5), 0);
     Check.is("crane(0, 0)", x.crane(0, 0), 5);
+    Check.is("crane(0, 6)", x.crane(0, 6), 10);
     Check.is("count(0)", x.count(0), 25);
     Check.is("place(0, 3)", x.place(0, 3), 1);
     Check.is("place(5, 3)", x.place(5, 3), 0);
   }
 
-  private static void turnRefusesWrongArguments() {
-    TreadCranes x = new TreadCranes();
-    Check.outOfBounds(x, "turn without cranes", () -> x.turn(0, 0));
-    x.build(5, 2, 1, 1);
-    for (int wild : WILD) {
-      Check.outOfBounds(x, "turn crane " + wild, () -> x.turn(wild, 5));
-      Check.outOfBounds(x, "turn place " + wild, () -> x.turn(0, wild));
+  /** "if there is no such crane". */
+  private static void turnOfNoCrane() {
+    Check.outOfBounds("turn without cranes", TreadCranes::new, x -> x.turn(0, 0));
+    for (int crane : Check.outside(0, 1)) {
+      Check.outOfBounds("turn(" + crane + ", 9)", Check.after(x -> Scenes.built(x, 2)), x -> x.turn(crane, 9));
     }
-    Check.outOfBounds(x, "turn(0, 16)", () -> x.turn(0, 16));
-    Check.outOfBounds(x, "turn(1, 15)", () -> x.turn(1, 15));
+    for (int crane : Check.outside(0, 4)) {
+      Check.outOfBounds("turn(" + crane + ", 8) of 5", Check.after(x -> Scenes.built(x, 5)), x -> x.turn(crane, 8));
+    }
+    Check.answers("turn of the last", Check.after(x -> Scenes.built(x, 5)), x -> x.turn(4, 8), 1);
   }
 
-  private static void turnStaysWithinReach() {
-    TreadCranes x = new TreadCranes();
-    x.build(5, 2, 1, 1);
-    Check.badState(x, "turn(0, 8)", () -> x.turn(0, 8));
-    Check.badState(x, "turn(0, 2)", () -> x.turn(0, 2));
-    Check.is("turn(0, 7)", x.turn(0, 7), 2);
-    Check.badState(x, "turn(0, 8) from 7", () -> x.turn(0, 8));
-    Check.is("turn(0, 3)", x.turn(0, 3), 4);
+  /** "or place is not 0 to 15": where the reach would let it, too. */
+  private static void turnOffTheQuay() {
+    for (int place : Check.outside(0, 15)) {
+      for (int from : new int[] {0, 15}) {
+        Check.outOfBounds("turn(0, " + place + ")", Check.after(x -> x.build(from, 15, 1, 1)), x -> x.turn(0, place));
+      }
+    }
+    Check.answers("turn(0, 0)", Check.after(x -> x.build(15, 15, 1, 1)), x -> x.turn(0, 0), 15);
+    Check.answers("turn(0, 15)", Check.after(x -> x.build(0, 15, 1, 1)), x -> x.turn(0, 15), 15);
   }
 
-  private static void turnLooksAtEachPlaceOfTheWay() {
-    TreadCranes x = new TreadCranes();
-    x.build(5, 10, 1, 1);
-    x.hoist(0, 1);
-    Check.stand(x, 7, 2, 1);
-    Check.badState(x, "turn past 7", () -> x.turn(0, 9));
-    Check.badState(x, "turn to 7", () -> x.turn(0, 7));
-    Check.is("turn ahead of 7", x.turn(0, 6), 1);
-    x.hoist(0, 2);
-    Check.is("turn past 7 just high enough", x.turn(0, 9), 3);
-    x.hoist(0, 1);
-    Check.badState(x, "turn back past 7", () -> x.turn(0, 5));
-    Check.is("turn away", x.turn(0, 15), 6);
+  /** "if the place is farther from the crane than its reach": from the crane, not from its hook. */
+  private static void turnFartherThanTheReach() {
+    Supplier<TreadCranes> wharf = Check.after(x -> x.build(5, 2, 1, 1));
+    Check.answers("as far as the reach, to the right", wharf, x -> x.turn(0, 7), 2);
+    Check.answers("as far as the reach, to the left", wharf, x -> x.turn(0, 3), 2);
+    Check.badState("farther, to the right", wharf, x -> x.turn(0, 8));
+    Check.badState("farther, to the left", wharf, x -> x.turn(0, 2));
+    Supplier<TreadCranes> right = Check.after(x -> {
+      x.build(5, 2, 1, 1);
+      x.turn(0, 7);
+    });
+    Check.badState("near the hook, but far from the crane", right, x -> x.turn(0, 8));
+    Check.answers("far from the hook, but near the crane", right, x -> x.turn(0, 3), 4);
   }
 
-  private static void turnLooksAtTheLoad() {
-    TreadCranes x = new TreadCranes();
-    x.build(5, 10, 1, 8);
-    Check.stand(x, 5, 1, 3);
-    Check.stand(x, 7, 1, 3);
-    x.hoist(0, 1);
-    x.take(0);
-    Check.badState(x, "turn past 7 with a load", () -> x.turn(0, 8));
-    Check.is("turn ahead of 7", x.turn(0, 6), 1);
-    x.hoist(0, 2);
-    Check.is("turn past 7", x.turn(0, 8), 2);
-    Check.is("turn with a load back to 7", x.turn(0, 7), 1);
+  /** "or the hook is not high enough for some place from the one where it is to that one". */
+  private static void turnThroughAPlaceOfTheWay() {
+    for (int distance = 1; distance <= 5; distance++) {
+      int right = 5 + distance;
+      int left = 10 - distance;
+      Check.badState("from 5 to 10 through " + right, Check.after(x -> inTheWay(x, 5, right, 1)), x -> x.turn(0, 10));
+      Check.answers("from 5 to 10 over " + right, Check.after(x -> inTheWay(x, 5, right, 2)), x -> x.turn(0, 10), 5);
+      Check.badState("from 10 to 5 through " + left, Check.after(x -> inTheWay(x, 10, left, 1)), x -> x.turn(0, 5));
+      Check.answers("from 10 to 5 over " + left, Check.after(x -> inTheWay(x, 10, left, 2)), x -> x.turn(0, 5), 5);
+    }
   }
 
-  private static void hoistRoundsTicksUp() {
+  /** A crane with its hook at a height, and 2 barrels at another place. */
+  private static void inTheWay(TreadCranes x, int crane, int place, int hook) {
+    x.build(crane, 10, 1, 1);
+    Scenes.stand(x, place, 2, 1);
+    x.hoist(0, hook);
+  }
+
+  /** "from the one where it is to that one": no other place matters, nor that of the crane. */
+  private static void turnPastPlacesThatAreNotOnTheWay() {
+    Supplier<TreadCranes> left = Check.after(x -> betweenTwoStacks(x, 4));
+    Check.answers("from 4 to 10 between 3 and 11", left, x -> x.turn(0, 10), 6);
+    Check.answers("from 4 to 4 beside 3", left, x -> x.turn(0, 4), 0);
+    Check.badState("from 4 into 11", left, x -> x.turn(0, 11));
+    Check.badState("from 4 into 3", left, x -> x.turn(0, 3));
+    Supplier<TreadCranes> right = Check.after(x -> betweenTwoStacks(x, 10));
+    Check.answers("from 10 to 4 between 11 and 3", right, x -> x.turn(0, 4), 6);
+    Check.answers("from 10 to 10 beside 11", right, x -> x.turn(0, 10), 0);
+    Check.badState("from 10 into 3", right, x -> x.turn(0, 3));
+    Check.badState("from 10 into 11", right, x -> x.turn(0, 11));
+  }
+
+  /** 8 barrels at 3, where the crane is, and at 11; its hook is as low as can be, over a place. */
+  private static void betweenTwoStacks(TreadCranes x, int place) {
+    x.build(3, 12, 1, 1);
+    Scenes.stand(x, 3, 8, 1);
+    Scenes.stand(x, 11, 8, 1);
+    x.turn(0, place);
+    x.hoist(0, 0);
+  }
+
+  /** "not high enough": with a load it has to be 1 higher. */
+  private static void turnThroughAPlaceWithALoad() {
+    Supplier<TreadCranes> low = Check.after(x -> loadedBesideABarrel(x, 1));
+    Supplier<TreadCranes> just = Check.after(x -> loadedBesideABarrel(x, 2));
+    Check.badState("with a load at 1, past a barrel", low, x -> x.turn(0, 4));
+    Check.badState("with a load at 1, to a barrel", low, x -> x.turn(0, 2));
+    Check.answers("with a load at 1, ahead of it", low, x -> x.turn(0, 1), 1);
+    Check.answers("with a load at 2, past a barrel", just, x -> x.turn(0, 4), 4);
+    Check.answers("with a load at 2, to a barrel", just, x -> x.turn(0, 2), 2);
+  }
+
+  /** Crane 0 has a load over 0, its hook at a height; at 2 stands a barrel. */
+  private static void loadedBesideABarrel(TreadCranes x, int hook) {
+    Scenes.loaded(x, 1, 3);
+    x.land(2, 3);
+    x.hoist(0, hook);
+  }
+
+  private static void hoistAnswersTheTicks() {
     for (int drum = 1; drum <= 6; drum++) {
       TreadCranes x = new TreadCranes();
       x.build(0, 1, drum, 0);
@@ -103,169 +163,230 @@ public final class WorkTest {
         before = height;
       }
       Check.is("count(0)", x.count(0), sum);
-      Check.is("an empty hook wears nothing", x.crane(0, 4), 0);
     }
   }
 
-  private static void hoistRefusesWrongArguments() {
-    TreadCranes x = new TreadCranes();
-    Check.outOfBounds(x, "hoist without cranes", () -> x.hoist(0, 30));
-    x.build(0, 1, 1, 1);
-    for (int wild : WILD) {
-      Check.outOfBounds(x, "hoist crane " + wild, () -> x.hoist(wild, 5));
-      Check.outOfBounds(x, "hoist both " + wild, () -> x.hoist(wild, -1));
-      Check.badArgument(x, "hoist height " + wild, () -> x.hoist(0, wild));
+  /** "if there is no such crane". */
+  private static void hoistOfNoCrane() {
+    Check.outOfBounds("hoist without cranes", TreadCranes::new, x -> x.hoist(0, 5));
+    for (int crane : Check.outside(0, 1)) {
+      Check.outOfBounds("hoist(" + crane + ", 5)", Check.after(x -> Scenes.built(x, 2)), x -> x.hoist(crane, 5));
     }
-    Check.outOfBounds(x, "hoist(1, 5)", () -> x.hoist(1, 5));
-    Check.badArgument(x, "hoist(0, 21)", () -> x.hoist(0, 21));
+    for (int crane : Check.outside(0, 4)) {
+      Check.outOfBounds("hoist(" + crane + ", 5) of 5", Check.after(x -> Scenes.built(x, 5)), x -> x.hoist(crane, 5));
+    }
+    Check.answers("hoist of the last", Check.after(x -> Scenes.built(x, 5)), x -> x.hoist(4, 5), 5);
   }
 
-  private static void hoistStaysAboveThePlace() {
-    TreadCranes x = new TreadCranes();
-    x.build(0, 1, 1, 8);
-    Check.stand(x, 0, 3, 2);
-    Check.badState(x, "hoist(0, 2)", () -> x.hoist(0, 2));
-    Check.is("hoist(0, 3)", x.hoist(0, 3), 7);
-    x.take(0);
-    Check.badState(x, "hoist(0, 2) with a load", () -> x.hoist(0, 2));
-    Check.is("hoist(0, 3) with a load", x.hoist(0, 3), 0);
+  /** "if height is not 0 to 20". */
+  private static void hoistToAWrongHeight() {
+    Supplier<TreadCranes> wharf = Check.after(x -> x.build(3, 3, 1, 3));
+    for (int height : Check.outside(0, 20)) {
+      Check.badArgument("hoist(0, " + height + ")", wharf, x -> x.hoist(0, height));
+    }
+    Check.answers("hoist(0, 0)", wharf, x -> x.hoist(0, 0), 10);
+    Check.answers("hoist(0, 20)", wharf, x -> x.hoist(0, 20), 10);
   }
 
-  private static void hoistNeedsStrengthOnlyToLiftALoad() {
-    TreadCranes x = new TreadCranes();
-    x.build(0, 1, 5, 2);
-    Check.stand(x, 0, 1, 5);
-    Check.is("strength", x.crane(0, 8), 4);
-    Check.is("hoist empty", x.hoist(0, 20), 2);
-    x.hoist(0, 1);
-    x.take(0);
-    Check.badState(x, "hoist(0, 2) too heavy", () -> x.hoist(0, 2));
-    Check.is("hoist(0, 1)", x.hoist(0, 1), 0);
-    x.man(0, 3);
-    Check.is("hoist(0, 9)", x.hoist(0, 9), 2);
-    x.man(0, 0);
-    Check.badState(x, "hoist(0, 10) without walkers", () -> x.hoist(0, 10));
-    Check.is("hoist(0, 9) without walkers", x.hoist(0, 9), 0);
-    Check.is("hoist(0, 2) without walkers", x.hoist(0, 2), 2);
-    TreadCranes y = new TreadCranes();
-    y.build(0, 1, 1, 1);
-    Check.stand(y, 0, 1, 12);
-    y.hoist(0, 1);
-    y.take(0);
-    Check.is("a weight as the strength", y.hoist(0, 2), 1);
+  /** "if this is not high enough for the place below": that of the hook, not that of the crane. */
+  private static void hoistIntoThePlaceBelow() {
+    Supplier<TreadCranes> own = Check.after(x -> overPlace(x, 0));
+    Supplier<TreadCranes> other = Check.after(x -> overPlace(x, 1));
+    Supplier<TreadCranes> empty = Check.after(x -> overPlace(x, 2));
+    Check.badState("hoist(0, 2) over 3", own, x -> x.hoist(0, 2));
+    Check.badState("hoist(0, 0) over 3", own, x -> x.hoist(0, 0));
+    Check.answers("hoist(0, 3) over 3", own, x -> x.hoist(0, 3), 7);
+    Check.badState("hoist(0, 4) over 5", other, x -> x.hoist(0, 4));
+    Check.answers("hoist(0, 5) over 5", other, x -> x.hoist(0, 5), 5);
+    Check.answers("hoist(0, 0) over nothing", empty, x -> x.hoist(0, 0), 10);
   }
 
-  private static void loweringALoadWearsTheBrake() {
-    int[] weights = {1, 19, 20, 39, 40, 59, 60};
-    int[] wears = {1, 1, 2, 2, 3, 3, 4};
-    for (int i = 0; i < weights.length; i++) {
-      TreadCranes x = loaded(1, weights[i]);
-      x.hoist(0, 11);
-      Check.is("lifting wears nothing", x.crane(0, 4), 0);
-      x.turn(0, 1);
-      Check.is("turning wears nothing", x.crane(0, 4), 0);
-      Check.is("hoist(0, 6)", x.hoist(0, 6), 5);
-      Check.is("wear by " + weights[i], x.crane(0, 4), 5 * wears[i]);
-    }
-    TreadCranes x = loaded(4, 20);
-    x.hoist(0, 11);
-    Check.is("hoist with drum 4", x.hoist(0, 2), 3);
-    Check.is("wear with drum 4", x.crane(0, 4), 6);
+  /** 3 barrels stand at 0, where the crane is, 5 at 1, none at 2; the hook is over a place. */
+  private static void overPlace(TreadCranes x, int place) {
+    x.build(0, 2, 1, 8);
+    Scenes.stand(x, 0, 3, 2);
+    Scenes.stand(x, 1, 5, 2);
+    x.turn(0, place);
   }
 
-  private static void aLoadFallsOnlyBeyondNinetyNine() {
-    TreadCranes x = loaded(1, 40);
-    for (int i = 0; i < 3; i++) {
-      x.hoist(0, 12);
-      Check.is("lowering by 11", x.hoist(0, 1), 11);
-    }
-    Check.is("worn by just 99", x.crane(0, 4), 99);
-    Check.is("it hangs still", x.crane(0, 7), 0);
-    Check.is("hoist(0, 1) is no lowering", x.hoist(0, 1), 0);
-    x.hoist(0, 2);
-    Check.is("one tick more", x.hoist(0, 1), -1);
-    Check.is("it hangs no more", x.crane(0, 7), -1);
+  /** "not high enough": with a load it has to be 1 higher. */
+  private static void hoistOfTheLoadIntoThePlaceBelow() {
+    Supplier<TreadCranes> wharf = Check.after(x -> {
+      x.build(0, 1, 1, 8);
+      Scenes.stand(x, 0, 3, 2);
+      x.hoist(0, 3);
+      x.take(0);
+      x.hoist(0, 9);
+    });
+    Check.badState("hoist(0, 2) with a load over 2", wharf, x -> x.hoist(0, 2));
+    Check.answers("hoist(0, 3) with a load over 2", wharf, x -> x.hoist(0, 3), 6);
   }
 
-  private static void aFallLeavesTheHook() {
-    TreadCranes x = loaded(1, 60);
-    x.hoist(0, 20);
-    x.hoist(0, 1);
-    x.hoist(0, 20);
-    x.turn(0, 1);
-    Check.is("hoist(0, 15)", x.hoist(0, 15), 5);
-    Check.is("worn by 96", x.crane(0, 4), 96);
-    int ticks = x.count(0);
-    Check.badState(x, "too low for the load", () -> x.hoist(0, 0));
-    Check.is("worn by 100 would be too much", x.hoist(0, 14), -1);
-    long[] due = {0, 15, 1, 8, 99, 1, 15, -1, 96};
-    for (int what = 0; what < 9; what++) {
-      Check.is("crane(0, " + what + ") after the fall", x.crane(0, what), due[what]);
-    }
-    long[] broken = {60, -1, 0, -1, 1};
-    for (int what = 0; what < 5; what++) {
-      Check.is("barrel(0, " + what + ") after the fall", x.barrel(0, what), broken[what]);
-    }
-    Check.is("a fall takes no ticks", x.count(0), ticks);
-    Check.is("nothing stands below", x.place(1, 0), 0);
-    Check.is("an empty hook goes down on a worn brake", x.hoist(0, 0), 15);
-    Check.is("the brake stays worn", x.mend(0), 99);
+  /** "or it is more than before, and the crane cannot lift its load". */
+  private static void hoistOfALoadThatIsTooHeavy() {
+    // strength 12
+    Supplier<TreadCranes> heavy = Check.after(x -> {
+      Scenes.loaded(x, 1, 13);
+      x.man(0, 1);
+    });
+    Supplier<TreadCranes> fine = Check.after(x -> {
+      Scenes.loaded(x, 1, 12);
+      x.man(0, 1);
+    });
+    Check.badState("by 1, too heavy", heavy, x -> x.hoist(0, 2));
+    Check.badState("to 20, too heavy", heavy, x -> x.hoist(0, 20));
+    Check.answers("by 1, as heavy as the strength", fine, x -> x.hoist(0, 2), 1);
+    Check.answers("to 20, as heavy as the strength", fine, x -> x.hoist(0, 20), 19);
+    Check.answers("to the same height, too heavy", heavy, x -> x.hoist(0, 1), 0);
+    Check.answers("too heavy until there are more walkers", heavy, x -> {
+      x.man(0, 2);
+      return x.hoist(0, 2);
+    }, 1);
+    Check.badState("without walkers", Check.after(x -> {
+      Scenes.loaded(x, 1, 1);
+      x.man(0, 0);
+    }), x -> x.hoist(0, 2));
+  }
+
+  /** "the crane cannot lift its load": an empty hook goes up without walkers. */
+  private static void hoistWithoutALoadNeedsNoStrength() {
+    Check.answers("without walkers", Check.after(x -> x.build(0, 1, 5, 0)), x -> x.hoist(0, 20), 2);
+  }
+
+  /** "it is more than before": a load goes down without walkers. */
+  private static void loweringNeedsNoStrength() {
+    Supplier<TreadCranes> wharf = Check.after(x -> {
+      Scenes.loaded(x, 1, 60);
+      x.hoist(0, 9);
+      x.man(0, 0);
+    });
+    Check.answers("down without walkers", wharf, x -> x.hoist(0, 2), 7);
+    Check.badState("up without walkers", wharf, x -> x.hoist(0, 10));
+  }
+
+  /** "-1 if the load falls". */
+  private static void hoistAnswersThatTheLoadFalls() {
+    Supplier<TreadCranes> wharf = Check.after(x -> {
+      Scenes.loadedAndWorn(x, 60, 91);
+      x.hoist(0, 20);
+    });
+    Check.answers("2 ticks, worn by just 99", wharf, x -> x.hoist(0, 18), 2);
+    Check.answers("3 ticks, worn by more", wharf, x -> x.hoist(0, 17), -1);
+    Check.answers("19 ticks, worn by more", wharf, x -> x.hoist(0, 1), -1);
+    Check.badState("too low, ahead of a fall", wharf, x -> x.hoist(0, 0));
+    Check.answers("no load any more", wharf, x -> {
+      x.hoist(0, 1);
+      return x.hoist(0, 0);
+    }, 20);
   }
 
   private static void takeTakesTheUppermost() {
     TreadCranes x = new TreadCranes();
     x.build(3, 2, 1, 8);
-    Check.stand(x, 3, 2, 5);
+    Scenes.stand(x, 3, 2, 5);
     x.hoist(0, 2);
     int ticks = x.count(0);
     Check.is("take(0)", x.take(0), 1);
     Check.is("crane(0, 7)", x.crane(0, 7), 1);
+    Check.is("crane(0, 6)", x.crane(0, 6), 2);
     Check.is("barrel(1, 1)", x.barrel(1, 1), -1);
     Check.is("barrel(1, 3)", x.barrel(1, 3), 0);
     Check.is("barrel(0, 2)", x.barrel(0, 2), 0);
     Check.is("place(3, 0)", x.place(3, 0), 1);
     Check.is("place(3, 1)", x.place(3, 1), 0);
     Check.is("take takes no ticks", x.count(0), ticks);
+    x.build(3, 2, 1, 8);
+    x.hoist(1, 1);
+    Check.is("take(1)", x.take(1), 0);
+    Check.is("barrel(0, 3)", x.barrel(0, 3), 1);
+    TreadCranes y = new TreadCranes();
+    y.build(3, 2, 1, 8);
+    y.land(3, 1);
+    y.land(5, 1);
+    y.hoist(0, 1);
+    y.turn(0, 5);
+    Check.is("take below the hook, not at the crane", y.take(0), 1);
   }
 
-  private static void takeRefuses() {
-    TreadCranes x = new TreadCranes();
-    Check.outOfBounds(x, "take without cranes", () -> x.take(0));
-    x.build(3, 2, 1, 8);
-    for (int wild : WILD) {
-      Check.outOfBounds(x, "take " + wild, () -> x.take(wild));
+  /** "if there is no such crane". */
+  private static void takeOfNoCrane() {
+    Check.outOfBounds("take without cranes", TreadCranes::new, x -> x.take(0));
+    for (int crane : Check.outside(0, 1)) {
+      Check.outOfBounds("take(" + crane + ")", Check.after(Scenes::mixed), x -> x.take(crane));
     }
-    Check.outOfBounds(x, "take(1)", () -> x.take(1));
-    Check.badState(x, "take from nothing", () -> x.take(0));
-    x.hoist(0, 0);
-    Check.badState(x, "take from nothing at 0", () -> x.take(0));
-    x.hoist(0, 3);
-    Check.stand(x, 3, 2, 5);
-    Check.badState(x, "take from too high", () -> x.take(0));
-    x.hoist(0, 2);
-    x.take(0);
-    Check.badState(x, "take with a load", () -> x.take(0));
-    x.build(3, 2, 1, 8);
-    Check.badState(x, "take by another, too high", () -> x.take(1));
-    x.hoist(1, 1);
-    Check.is("take by another", x.take(1), 0);
-    Check.is("barrel(0, 3)", x.barrel(0, 3), 1);
+    for (int crane : Check.outside(0, 4)) {
+      Check.outOfBounds("take(" + crane + ") of 5", Check.after(x -> Scenes.built(x, 5)), x -> x.take(crane));
+    }
+    Check.answers("take of the last", Check.after(x -> {
+      Scenes.built(x, 5);
+      x.land(9, 1);
+      x.hoist(4, 1);
+    }), x -> x.take(4), 0);
+  }
+
+  /** "if it has a load". */
+  private static void takeWithALoad() {
+    Supplier<TreadCranes> wharf = Check.after(x -> {
+      x.build(3, 2, 1, 8);
+      Scenes.stand(x, 3, 2, 5);
+      x.hoist(0, 2);
+      x.take(0);
+    });
+    Check.badState("take with a load just above a barrel", wharf, x -> x.take(0));
+    Check.badState("take with a load over nothing", Check.after(x -> Scenes.loaded(x, 1, 1)), x -> x.take(0));
+  }
+
+  /** "no barrel stands there". */
+  private static void takeWhereNoBarrelStands() {
+    Check.badState("take from nothing", Check.after(x -> {
+      x.land(4, 1);
+      x.build(3, 2, 1, 8);
+      x.hoist(0, 0);
+    }), x -> x.take(0));
+    Check.badState("take from nothing aside", Check.after(x -> {
+      x.build(3, 2, 1, 8);
+      x.land(3, 1);
+      x.turn(0, 4);
+      x.hoist(0, 0);
+    }), x -> x.take(0));
+  }
+
+  /** "or the hook is not just as high as the place". */
+  private static void takeFromTooHigh() {
+    for (int height = 1; height <= 8; height++) {
+      int h = height;
+      Supplier<TreadCranes> higher = Check.after(x -> {
+        x.build(3, 2, 1, 8);
+        Scenes.stand(x, 3, h, 5);
+        x.hoist(0, h + 1);
+      });
+      Supplier<TreadCranes> just = Check.after(x -> {
+        x.build(3, 2, 1, 8);
+        Scenes.stand(x, 3, h, 5);
+        x.hoist(0, h);
+      });
+      Check.badState("take from 1 above " + h, higher, x -> x.take(0));
+      Check.answers("take from " + h, just, x -> x.take(0), h - 1);
+    }
+    Check.badState("take from 10", Check.after(x -> {
+      x.build(3, 2, 1, 8);
+      x.land(3, 1);
+    }), x -> x.take(0));
   }
 
   private static void takeNeedsNoStrength() {
-    TreadCranes x = new TreadCranes();
-    x.build(3, 2, 1, 0);
-    Check.stand(x, 3, 1, 60);
-    x.hoist(0, 1);
-    Check.is("take without walkers", x.take(0), 0);
-    Check.is("lay without walkers", x.lay(0), 1);
+    Check.answers("take without walkers", Check.after(x -> {
+      x.build(3, 2, 1, 0);
+      x.land(3, 60);
+      x.hoist(0, 1);
+    }), x -> x.take(0), 0);
   }
 
   private static void laySetsDown() {
     TreadCranes x = new TreadCranes();
     x.build(3, 2, 1, 8);
-    Check.stand(x, 3, 1, 5);
-    Check.stand(x, 4, 2, 6);
+    Scenes.stand(x, 3, 1, 5);
+    Scenes.stand(x, 4, 2, 6);
     x.hoist(0, 1);
     x.take(0);
     x.hoist(0, 3);
@@ -273,6 +394,7 @@ public final class WorkTest {
     int ticks = x.count(0);
     Check.is("lay(0)", x.lay(0), 3);
     Check.is("crane(0, 7)", x.crane(0, 7), -1);
+    Check.is("crane(0, 6)", x.crane(0, 6), 3);
     Check.is("barrel(0, 1)", x.barrel(0, 1), 4);
     Check.is("barrel(0, 3)", x.barrel(0, 3), -1);
     Check.is("barrel(1, 2)", x.barrel(1, 2), 2);
@@ -282,59 +404,116 @@ public final class WorkTest {
     Check.is("and set down", x.lay(0), 3);
   }
 
-  private static void layRefuses() {
-    TreadCranes x = new TreadCranes();
-    Check.outOfBounds(x, "lay without cranes", () -> x.lay(0));
-    x.build(3, 2, 1, 8);
-    for (int wild : WILD) {
-      Check.outOfBounds(x, "lay " + wild, () -> x.lay(wild));
+  /** "if there is no such crane". */
+  private static void layOfNoCrane() {
+    Check.outOfBounds("lay without cranes", TreadCranes::new, x -> x.lay(0));
+    for (int crane : Check.outside(0, 0)) {
+      Check.outOfBounds("lay(" + crane + ")", Check.after(x -> Scenes.loaded(x, 1, 1)), x -> x.lay(crane));
     }
-    Check.outOfBounds(x, "lay(1)", () -> x.lay(1));
-    x.hoist(0, 1);
-    Check.badState(x, "lay without a load", () -> x.lay(0));
-    Check.stand(x, 3, 1, 1);
-    Check.stand(x, 4, 8, 1);
-    x.take(0);
-    x.hoist(0, 2);
-    Check.badState(x, "lay from too high", () -> x.lay(0));
-    x.hoist(0, 9);
-    x.turn(0, 4);
-    Check.badState(x, "lay upon 8", () -> x.lay(0));
-    x.build(4, 2, 1, 8);
-    x.hoist(1, 8);
-    x.take(1);
-    x.hoist(1, 20);
-    x.turn(1, 5);
-    x.hoist(0, 8);
-    Check.is("lay upon 7", x.lay(0), 8);
+    for (int crane : Check.outside(0, 4)) {
+      Check.outOfBounds("lay(" + crane + ") of 5", Check.after(x -> Scenes.built(x, 5)), x -> x.lay(crane));
+    }
+    Check.answers("lay of the last", Check.after(x -> {
+      Scenes.built(x, 5);
+      x.land(9, 1);
+      x.hoist(4, 1);
+      x.take(4);
+    }), x -> x.lay(4), 1);
   }
 
-  private static void layLooksAtOtherHooks() {
-    TreadCranes x = new TreadCranes();
+  /** "if it has none". */
+  private static void layWithoutALoad() {
+    Check.badState("lay without a load, 1 above nothing", Check.after(x -> {
+      x.build(3, 2, 1, 8);
+      x.hoist(0, 1);
+    }), x -> x.lay(0));
+    Check.badState("lay without a load, 1 above 3", Check.after(x -> {
+      x.build(3, 2, 1, 8);
+      Scenes.stand(x, 3, 3, 1);
+      x.hoist(0, 4);
+    }), x -> x.lay(0));
+    Check.badState("lay what is laid", Check.after(x -> {
+      Scenes.loaded(x, 1, 1);
+      x.lay(0);
+    }), x -> x.lay(0));
+  }
+
+  /** "the hook is not just 1 higher than the place". */
+  private static void layFromTooHigh() {
+    for (int height = 0; height <= 7; height++) {
+      int h = height;
+      Supplier<TreadCranes> higher = Check.after(x -> over(x, h, h + 2));
+      Supplier<TreadCranes> just = Check.after(x -> over(x, h, h + 1));
+      Check.badState("lay from 2 above " + h, higher, x -> x.lay(0));
+      Check.answers("lay from 1 above " + h, just, x -> x.lay(0), h + 1);
+    }
+    Check.badState("lay from 20", Check.after(x -> over(x, 0, 20)), x -> x.lay(0));
+  }
+
+  /** Crane 0 holds barrel 0, of weight 1, over so many barrels at place 1, its hook at a height. */
+  private static void over(TreadCranes x, int barrels, int hook) {
+    Scenes.loaded(x, 1, 1);
+    x.hoist(0, 12);
+    Scenes.stand(x, 1, barrels, 1);
+    x.turn(0, 1);
+    x.hoist(0, hook);
+  }
+
+  /** "8 stand there". */
+  private static void layUpon8() {
+    Check.answers("lay upon 7", Check.after(x -> over(x, 7, 8)), x -> x.lay(0), 8);
+    Check.badState("lay upon 8", Check.after(x -> over(x, 8, 9)), x -> x.lay(0));
+  }
+
+  /** "or another hook over it would not be high enough then": its own is. */
+  private static void layUnderAnotherHook() {
+    for (int other : new int[] {0, 1}) {
+      Supplier<TreadCranes> low = Check.after(x -> beside(x, other, 0, 5));
+      Supplier<TreadCranes> just = Check.after(x -> beside(x, other, 1, 5));
+      Supplier<TreadCranes> aside = Check.after(x -> beside(x, other, 0, 6));
+      Check.badState("lay through hook " + other, low, x -> x.lay(1 - other));
+      Check.answers("lay up to hook " + other, just, x -> x.lay(1 - other), 1);
+      Check.answers("lay beside hook " + other, aside, x -> x.lay(1 - other), 1);
+    }
+  }
+
+  /** The one of cranes 0 and 1, both of place 4, has its hook empty; the other one has a load over 5. */
+  private static void beside(TreadCranes x, int empty, int height, int place) {
+    x.build(4, 3, 1, 8);
+    x.build(4, 3, 1, 8);
+    x.land(4, 1);
+    x.hoist(1 - empty, 1);
+    x.take(1 - empty);
+    x.turn(1 - empty, 5);
+    x.turn(empty, place);
+    x.hoist(empty, height);
+  }
+
+  /** "would not be high enough then": with a load it has to be 1 higher. */
+  private static void layUnderAnotherLoad() {
+    Supplier<TreadCranes> low = Check.after(x -> twoLoads(x, 1));
+    Supplier<TreadCranes> just = Check.after(x -> twoLoads(x, 2));
+    Check.badState("lay through another load", low, x -> x.lay(0));
+    Check.answers("lay up to another load", just, x -> x.lay(0), 1);
+  }
+
+  /** Two cranes at 3 have loads over it, one its hook at 1, the other one at a height. */
+  private static void twoLoads(TreadCranes x, int height) {
     x.build(3, 2, 1, 8);
     x.build(3, 2, 1, 8);
-    Check.stand(x, 3, 2, 1);
+    Scenes.stand(x, 3, 2, 1);
     x.hoist(0, 2);
     x.take(0);
     x.hoist(1, 1);
-    Check.badState(x, "lay through another hook", () -> x.lay(0));
     x.take(1);
     x.hoist(0, 1);
-    Check.badState(x, "lay through another's load", () -> x.lay(0));
-    x.hoist(1, 2);
-    Check.is("lay up to another's load", x.lay(0), 1);
-    Check.badState(x, "lay through the empty hook", () -> x.lay(1));
-    x.hoist(0, 2);
-    Check.is("lay up to the empty hook", x.lay(1), 2);
+    x.hoist(1, height);
   }
 
-  /** A crane of 8 walkers at place 0, with barrel 0 as its load, its hook at 1. */
-  private static TreadCranes loaded(int drum, int weight) {
-    TreadCranes x = new TreadCranes();
-    x.build(0, 15, drum, 8);
-    x.land(0, weight);
-    x.hoist(0, 1);
-    x.take(0);
-    return x;
+  private static void layNeedsNoStrength() {
+    Check.answers("lay without walkers", Check.after(x -> {
+      Scenes.loaded(x, 1, 60);
+      x.man(0, 0);
+    }), x -> x.lay(0), 1);
   }
 }
